@@ -1,0 +1,32 @@
+/** Promise 9: weight. */
+public final class Promise09WeightTest {
+    private static final Checks checks = new Checks("promise 9");
+
+    public static void main(String[] args) {
+        EchoBench bench = new EchoBench();
+        checks.throwsIndex("no filter at all", bench, () -> bench.weight(0, 0));
+        bench.filter(EchoBench.SIGN, 3, 1000);
+        bench.filter(EchoBench.RLS, 4, 1000);
+        bench.filter(EchoBench.LMS, 8, 1000);
+        checks.same("at first", bench.weight(0, 2), 0.0);
+        bench.feed(1, 0);
+        bench.feed(2, 0);
+        bench.feed(3, 500);
+        checks.same("weight 0", bench.weight(0, 0), 3.0);
+        checks.same("weight 1", bench.weight(0, 1), 2.0);
+        checks.same("weight 2", bench.weight(0, 2), 1.0);
+        checks.same("of another filter", bench.weight(2, 1), 1000.0);
+        checks.same("beyond the samples", bench.weight(2, 7), 0.0);
+        checks.same("asked again", bench.weight(0, 0), 3.0);
+
+        checks.throwsIndex("tap 3 of 3", bench, () -> bench.weight(0, 3));
+        checks.throwsIndex("tap 4 of 4", bench, () -> bench.weight(1, 4));
+        checks.throwsIndex("tap 8 of 8", bench, () -> bench.weight(2, 8));
+        checks.throwsIndex("tap -1", bench, () -> bench.weight(0, -1));
+        checks.throwsIndex("filter 3", bench, () -> bench.weight(3, 0));
+        checks.throwsIndex("filter -1", bench, () -> bench.weight(-1, 0));
+        checks.throwsIndex("filter 6", bench, () -> bench.weight(6, 0));
+        checks.throwsIndex("both wrong", bench, () -> bench.weight(Integer.MIN_VALUE, Integer.MAX_VALUE));
+        checks.end();
+    }
+}

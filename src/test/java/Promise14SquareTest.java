@@ -1,0 +1,51 @@
+/** Promise 14: square. */
+public final class Promise14SquareTest {
+    private static final Checks checks = new Checks("promise 14");
+
+    public static void main(String[] args) {
+        tellsTheSquare();
+        refuses();
+        checks.end();
+    }
+
+    private static void tellsTheSquare() {
+        EchoBench bench = new EchoBench();
+        bench.filter(EchoBench.RLS, 4, 1000);
+        for (int row = 0; row < 4; row++) {
+            for (int column = 0; column < 4; column++) {
+                checks.same("at first", bench.square(0, row, column), row == column ? 100.0 : 0.0);
+            }
+        }
+        bench.feed(1, 0);
+        double seen = 100.0 - 100.0 / 101.0 * 100.0;
+        checks.same("what was excited", bench.square(0, 0, 0), seen);
+        checks.same("what was not", bench.square(0, 3, 3), 100.0);
+        bench.feed(2, 0);
+        // g is (2 seen, 100, 0, 0)
+        double m = 1.0 + 2.0 * (seen * 2.0) + 100.0;
+        checks.same("row 0, column 1", bench.square(0, 0, 1), 0.0 - seen * 2.0 / m * 100.0);
+        checks.same("row 1, column 0", bench.square(0, 1, 0), 0.0 - 100.0 / m * (seen * 2.0));
+        checks.same("row 1, column 1", bench.square(0, 1, 1), 100.0 - 100.0 / m * 100.0);
+    }
+
+    private static void refuses() {
+        EchoBench bench = new EchoBench();
+        checks.throwsIndex("no filter at all", bench, () -> bench.square(0, 0, 0));
+        bench.filter(EchoBench.RLS, 2, 700);
+        bench.filter(EchoBench.LMS, 2, 1);
+        bench.filter(EchoBench.NORMAL, 8, 1);
+        bench.filter(EchoBench.SIGN, 1, 1);
+        bench.feed(1, 1);
+        checks.throwsIndex("row 2", bench, () -> bench.square(0, 2, 0));
+        checks.throwsIndex("column 2", bench, () -> bench.square(0, 0, 2));
+        checks.throwsIndex("row -1", bench, () -> bench.square(0, -1, 0));
+        checks.throwsIndex("column -1", bench, () -> bench.square(0, 0, -1));
+        checks.throwsIndex("filter 4", bench, () -> bench.square(4, 0, 0));
+        checks.throwsIndex("filter -1", bench, () -> bench.square(-1, 0, 0));
+        checks.throwsState("an LMS", bench, () -> bench.square(1, 1, 1));
+        checks.throwsState("a NORMAL", bench, () -> bench.square(2, 7, 7));
+        checks.throwsState("a SIGN", bench, () -> bench.square(3, 0, 0));
+        checks.throwsIndex("a row that an LMS has not", bench, () -> bench.square(1, 2, 0));
+        checks.throwsIndex("a column that a SIGN has not", bench, () -> bench.square(3, 0, 1));
+    }
+}

@@ -1,0 +1,32 @@
+/** Promise 15: best. */
+public final class Promise15BestTest {
+    public static void main(String[] args) {
+        Checks checks = new Checks("promise 15");
+        EchoBench bench = new EchoBench();
+        checks.same("without filters", bench.best(), EchoBench.NONE);
+        bench.path(0, 300);
+        bench.path(3, 100);
+        bench.filter(EchoBench.SIGN, 4, 1000);
+        checks.same("the only one", bench.best(), 0);
+        bench.filter(EchoBench.SIGN, 1, 1000);
+        checks.same("fewer taps are less off here", bench.best(), 1);
+        bench.filter(EchoBench.SIGN, 2, 1000);
+        checks.same("of several the lowest", bench.best(), 1);
+        bench.filter(EchoBench.SIGN, 1, 2000);
+        bench.feed(1, 0);
+        checks.same("who learns more", bench.best(), 3);
+        bench.path(0, 100);
+        checks.same("the path told last", bench.best(), 1);
+        bench.path(0, 0);
+        bench.begin(2);
+        checks.same("who began again", bench.best(), 2);
+        bench.begin(1);
+        checks.same("of several the lowest", bench.best(), 1);
+        bench.filter(EchoBench.SIGN, 1, 1);
+        checks.same("a later one is as good", bench.best(), 1);
+        bench.path(3, 0);
+        bench.begin(0);
+        checks.same("the first", bench.best(), 0);
+        checks.end();
+    }
+}
