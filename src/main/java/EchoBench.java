@@ -549,8 +549,10 @@ public final class EchoBench {
 
         private double rowTimes(int row, double[] xs) {
             double sum = 0.0;
-            for (int j = 0; j < size && j < xs.length; j++) {
-                sum = sum + number(row, j) * xs[j];
+            if (row >= 0 && row < size) {
+                for (int j = 0; j < size && j < xs.length; j++) {
+                    sum = sum + numbers[row][j] * xs[j];
+                }
             }
             return sum;
         }

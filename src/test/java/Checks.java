@@ -16,9 +16,9 @@ final class Checks {
         }
     }
 
-    void holds(String what, boolean true_) {
+    void holds(String what, boolean it) {
         checked++;
-        if (!true_) {
+        if (!it) {
             wrong++;
             System.out.println(title + ": " + what + " does not hold");
         }

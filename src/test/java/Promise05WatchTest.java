@@ -42,6 +42,19 @@ public final class Promise05WatchTest {
         untold.feed(0, 1000);
         checks.same("no watch told", untold.count(0, 1), 0);
 
+        EchoBench least = watched(1, 1, 0);
+        least.feed(100, 1);
+        checks.same("at the least watch", least.count(0, 1), 0);
+        least.feed(100, 2);
+        checks.same("above the least watch", least.count(0, 1), 1);
+
+        EchoBench quiet = watched(1, 40, 0);
+        quiet.path(0, 50);
+        quiet.feed(1, 0);
+        checks.same("a microphone below 1", quiet.count(0, 1), 1);
+        quiet.feed(-1, 0);
+        checks.same("the same, either way", quiet.count(0, 1), 2);
+
         EchoBench most = watched(1, 1000, 20);
         most.path(0, 1000);
         most.feed(100, 0);

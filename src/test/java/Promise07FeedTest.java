@@ -48,6 +48,9 @@ public final class Promise07FeedTest {
         checks.same("error", bench.of(0, 1), error);
         checks.same("weight 0", bench.weight(0, 0), 4.5 + 1.5 * error * 2.0 / 14.0);
         checks.same("weight 1", bench.weight(0, 1), 1.5 * error * 3.0 / 14.0);
+        double before = bench.weight(0, 0);
+        bench.feed(1, 0);
+        checks.same("x 2 is left out", bench.weight(0, 0), before + 1.5 * bench.of(0, 1) * 1.0 / (1.0 + 1.0 + 4.0));
     }
 
     private static void learnsBySigns() {
@@ -62,6 +65,15 @@ public final class Promise07FeedTest {
         checks.same("no error", bench.of(0, 1), 0.0);
         checks.same("no error, weight 0", bench.weight(0, 0), 5.0);
         checks.same("no error, weight 1", bench.weight(0, 1), -2.0);
+
+        EchoBench small = new EchoBench();
+        small.filter(EchoBench.SIGN, 1, 1000);
+        small.path(0, 1);
+        small.feed(1, 0);
+        checks.same("a small error above 0", small.weight(0, 0), 1.0);
+        small.path(0, 99);
+        small.feed(1, 0);
+        checks.same("a small error below 0", small.weight(0, 0), 0.0);
     }
 
     private static void learnsRecursively() {
