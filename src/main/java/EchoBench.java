@@ -248,6 +248,24 @@ public final class EchoBench {
         return number < 0.0 ? -number : number;
     }
 
+    /** Opposites make 0.0, as with +, but also where they are infinite and + would answer NaN. */
+    private static double together(double left, double right) {
+        return left == -right ? 0.0 : left + right;
+    }
+
+    /** 0.0 times any number is 0.0, as with *, but also times infinity, where * would answer NaN. */
+    private static double times(double left, double right) {
+        return left == 0.0 || right == 0.0 ? 0.0 : left * right;
+    }
+
+    /** Equal sizes make 1.0 or -1.0, as with /, but also where they are infinite and / would answer NaN. */
+    private static double dividedBy(double number, double divisor) {
+        if (divisor == 0.0) {
+            return 0.0;
+        }
+        return number == divisor ? 1.0 : number == -divisor ? -1.0 : number / divisor;
+    }
+
     private Filter numbered(int number) {
         return number < 0 || number >= filterCount || number >= filters.length ? null : filters[number];
     }
@@ -394,6 +412,8 @@ public final class EchoBench {
             heard++;
             if (holdsAt(xs, microphone)) {
                 held++;
+            } else if (square != null) {
+                learnBySquare(square, xs);
             } else {
                 learn(xs);
             }
@@ -433,10 +453,6 @@ public final class EchoBench {
         }
 
         private void learn(double[] xs) {
-            if (square != null) {
-                learnBySquare(square, xs);
-                return;
-            }
             double norm = kind == NORMAL ? normOf(xs) : 1.0;
             for (int k = 0; k < weights.length && k < xs.length; k++) {
                 add(k, lesson(xs[k], norm));
@@ -468,7 +484,7 @@ public final class EchoBench {
             boolean sound = own.prepare(xs, step);
             if (sound) {
                 for (int k = 0; k < weights.length; k++) {
-                    add(k, own.share(k) * error);
+                    add(k, times(own.share(k), error));
                 }
                 sound = own.renew(step);
             }
@@ -495,7 +511,11 @@ public final class EchoBench {
         }
     }
 
-    /** The square P of an RLS filter, with the rows g and k of the sample at hand. */
+    /**
+     * The square P of an RLS filter, with the rows g and k of the sample at hand.
+     * Nothing bounds its numbers beside the diagonal, so all of it is reckoned by
+     * together, times and dividedBy, which differ from + * / only where those answer NaN.
+     */
     private static final class Square {
         private static final int FIRST = 100;
         private static final int MOST_DIAGONAL = 1000000;
@@ -536,13 +556,13 @@ public final class EchoBench {
             double m = step;
             for (int i = 0; i < size && i < xs.length; i++) {
                 g[i] = rowTimes(i, xs);
-                m = m + xs[i] * g[i];
+                m = together(m, times(xs[i], g[i]));
             }
             if (m < 0.000001) {
                 return false;
             }
             for (int i = 0; i < size; i++) {
-                shares[i] = g[i] / m;
+                shares[i] = dividedBy(g[i], m);
             }
             return true;
         }
@@ -551,7 +571,7 @@ public final class EchoBench {
             double sum = 0.0;
             if (row >= 0 && row < size) {
                 for (int j = 0; j < size && j < xs.length; j++) {
-                    sum = sum + numbers[row][j] * xs[j];
+                    sum = together(sum, times(numbers[row][j], xs[j]));
                 }
             }
             return sum;
@@ -562,12 +582,10 @@ public final class EchoBench {
             if (step <= 0.0) {
                 return false;
             }
-            // Far above what a run meets, so that P cannot overflow and bring forth NaN.
-            double far = 1.0e100;
             boolean sound = true;
             for (int i = 0; i < size; i++) {
                 for (int j = 0; j < size; j++) {
-                    numbers[i][j] = heldTo((numbers[i][j] - shares[i] * g[j]) / step, far);
+                    numbers[i][j] = together(numbers[i][j], -times(shares[i], g[j])) / step;
                 }
                 sound = sound && numbers[i][i] <= MOST_DIAGONAL && numbers[i][i] >= 0.0;
             }

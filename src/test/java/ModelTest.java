@@ -4,6 +4,7 @@ import java.util.function.DoubleSupplier;
 public final class ModelTest {
     private static final int RUNS = 1500;
     private static final int CALLS = 512;
+    private static final int HUGE_RUNS = 600;
 
     private long seed;
     private final Checks checks = new Checks("ModelTest");
@@ -17,10 +18,14 @@ public final class ModelTest {
         for (int run = 0; run < RUNS; run++) {
             test.run(run);
         }
+        for (int run = 0; run < HUGE_RUNS; run++) {
+            test.hugeRun(run);
+        }
         test.checks.holds("some square was reset above its bound", test.above > 0);
         test.checks.holds("some square was reset below 0.0", test.below > 0);
         test.checks.holds("some square was reset for a small m", test.small > 0);
-        test.checks.holds("no square comes near 1.0e100: " + test.greatestP, test.greatestP < 1.0e50);
+        test.checks.holds("some square grew: " + test.greatestP, test.greatestP > 1.0e120);
+        test.checks.holds("none grew so far that doubles end: " + test.greatestP, test.greatestP < 1.0e300);
         System.out.println("resets: " + test.above + " above, " + test.below + " below, " + test.small
                 + " for a small m; the greatest number of a square: " + test.greatestP);
         test.checks.end();
@@ -61,6 +66,32 @@ public final class ModelTest {
         for (int call = 0; call < CALLS; call++) {
             one("run " + run + " call " + call, bench, model, loud);
         }
+        count(model);
+    }
+
+    /** Other filters beside one whose square grows while x is 0, and what comes behind that. */
+    private void hugeRun(int run) {
+        seed = run * 104729L + 5;
+        EchoBench bench = new EchoBench();
+        Model model = new Model();
+        bench.filter(EchoBench.RLS, 2, FlatSquare.FIRST_STEP);
+        model.filter(EchoBench.RLS, 2, FlatSquare.FIRST_STEP);
+        String where = "huge run " + run;
+        FlatSquare.reach(step -> same(where, () -> bench.step(0, step), () -> model.step(0, step)),
+                x -> same(where, () -> bench.feed(x, 0), () -> model.feed(x, 0)));
+        int zeros = next(0, 420);
+        for (int sample = 0; sample < zeros; sample++) {
+            same(where, () -> bench.feed(0, 0), () -> model.feed(0, 0));
+        }
+        same(where, () -> bench.square(0, 0, 1), () -> model.square(0, 0, 1));
+        int loud = new int[] {1000, 10, 1, 0}[run % 4];
+        for (int call = 57 + zeros; call < CALLS; call++) {
+            one(where + " call " + call, bench, model, loud);
+        }
+        count(model);
+    }
+
+    private void count(Model model) {
         for (Model.Learner learner : model.learners) {
             above += learner.resetsAbove;
             below += learner.resetsBelow;

@@ -12,6 +12,8 @@ public final class Promise07FeedTest {
         resetsASquareAboveItsBound();
         resetsASquareBelowZero();
         resetsASquareForASmallM();
+        boundsNothingBesideTheDiagonal();
+        learnsFromAHugeSquare();
         keepsEightX();
         refuses();
         checks.end();
@@ -171,6 +173,49 @@ public final class Promise07FeedTest {
         checks.holds("there was an error", bench.of(0, 1) != 0.0);
         checks.same("nothing is learned", bench.weight(0, 0), before);
         checks.same("it did not hold", bench.count(0, 1), 0);
+    }
+
+    private static void boundsNothingBesideTheDiagonal() {
+        EchoBench bench = FlatSquare.bench();
+        int resets = bench.count(0, 2);
+        double due01 = FlatSquare.P01;
+        double due10 = FlatSquare.P10;
+        checks.same("P 0 0", bench.square(0, 0, 0), 0.0);
+        checks.same("P 1 1", bench.square(0, 1, 1), 0.0);
+        // The run so far was of 59 calls, and five are still to come: these are all that are left of 512.
+        for (int sample = 0; sample < 448; sample++) {
+            bench.feed(0, 0);
+            due01 = due01 / 0.5;
+            due10 = due10 / 0.5;
+        }
+        checks.same("P 0 1", bench.square(0, 0, 1), due01);
+        checks.same("P 1 0", bench.square(0, 1, 0), due10);
+        checks.holds("they are far beyond 1.0e100", due01 > 1.0e129 && due10 < -1.0e129);
+        checks.same("P 0 0", bench.square(0, 0, 0), 0.0);
+        checks.same("P 1 1", bench.square(0, 1, 1), 0.0);
+        checks.same("no reset", bench.count(0, 2), resets);
+    }
+
+    /** A huge square is taken as it is: its diagonal goes below 0.0 at the next x, and the weight learns. */
+    private static void learnsFromAHugeSquare() {
+        EchoBench bench = FlatSquare.bench();
+        bench.begin(0);
+        checks.same("begin makes P as at first", bench.square(0, 0, 1), 0.0);
+
+        bench = FlatSquare.bench();
+        for (int sample = 0; sample < 400; sample++) {
+            bench.feed(0, 0);
+        }
+        int resets = bench.count(0, 2);
+        double before = bench.weight(0, 1);
+        double p = bench.square(0, 1, 0);
+        bench.feed(3, 8);
+        checks.same("a reset", bench.count(0, 2), resets + 1);
+        asAtFirst(bench, 2);
+        double learned = before + p * 3.0 / 0.5 * bench.of(0, 1);
+        double bound = 1.0e9;
+        checks.same("the weight", bench.weight(0, 1), learned > bound ? bound : learned < -bound ? -bound : learned);
+        checks.holds("it learned", bench.weight(0, 1) != before);
     }
 
     private static void asAtFirst(EchoBench bench, int taps) {

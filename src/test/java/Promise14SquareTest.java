@@ -4,6 +4,9 @@ public final class Promise14SquareTest {
 
     public static void main(String[] args) {
         tellsTheSquare();
+        tellsAHugeSquare();
+        neverAnswersNaN();
+        neverAnswersNaNBehindAHold();
         refuses();
         checks.end();
     }
@@ -26,6 +29,54 @@ public final class Promise14SquareTest {
         checks.same("row 0, column 1", bench.square(0, 0, 1), 0.0 - seen * 2.0 / m * 100.0);
         checks.same("row 1, column 0", bench.square(0, 1, 0), 0.0 - 100.0 / m * (seen * 2.0));
         checks.same("row 1, column 1", bench.square(0, 1, 1), 100.0 - 100.0 / m * 100.0);
+    }
+
+    private static void tellsAHugeSquare() {
+        EchoBench bench = grown(453);
+        checks.same("row 0, column 1", bench.square(0, 0, 1), 5.3235258127119645E131 / 4.0);
+        checks.same("row 1, column 0", bench.square(0, 1, 0), -4.106583754776751E131 / 4.0);
+        checks.same("row 0, column 0", bench.square(0, 0, 0), 0.0);
+    }
+
+    /** More samples than a run can feed one by one; LANGUAGE.md (rule 3) wants no NaN even then. */
+    private static void neverAnswersNaN() {
+        for (int zeros = 900; zeros <= 1900; zeros += 4) {
+            EchoBench bench = grown(zeros);
+            holdsNoNaN(bench, zeros);
+            bench.feed(zeros % 3 - 1, 0);
+            holdsNoNaN(bench, zeros);
+            bench.feed(zeros % 5 - 2, zeros % 7);
+            holdsNoNaN(bench, zeros);
+            bench.script(zeros, 40);
+            holdsNoNaN(bench, zeros);
+        }
+    }
+
+    /** Held at x 1, it meets x 0 and x 1 both with numbers at the end of the doubles: m is infinite or cancels. */
+    private static void neverAnswersNaNBehindAHold() {
+        for (int zeros = 1030; zeros <= 1050; zeros++) {
+            for (int pair = 0; pair < 49; pair++) {
+                EchoBench bench = grown(zeros);
+                bench.watch(0, 1, 0);
+                bench.feed(pair / 7 - 3, 1000);
+                bench.watch(0, 0, 0);
+                bench.feed(pair % 7 - 3, 5);
+                holdsNoNaN(bench, zeros);
+            }
+        }
+    }
+
+    private static EchoBench grown(int zeros) {
+        EchoBench bench = FlatSquare.bench();
+        for (int sample = 0; sample < zeros; sample++) {
+            bench.feed(0, 0);
+        }
+        return bench;
+    }
+
+    private static void holdsNoNaN(EchoBench bench, int zeros) {
+        String look = Look.at(bench);
+        checks.holds("no NaN behind " + zeros + " zeros: " + look, !look.contains("NaN"));
     }
 
     private static void refuses() {
