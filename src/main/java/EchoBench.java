@@ -514,7 +514,8 @@ public final class EchoBench {
     /**
      * The square P of an RLS filter, with the rows g and k of the sample at hand.
      * Nothing bounds its numbers beside the diagonal, so all of it is reckoned by
-     * together, times and dividedBy, which differ from + * / only where those answer NaN.
+     * together, times and dividedBy, which differ from + * / only where those answer NaN
+     * (and in the sign of a 0.0, which no number of P, and no weight, takes over).
      */
     private static final class Square {
         private static final int FIRST = 100;
