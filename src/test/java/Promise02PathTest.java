@@ -7,6 +7,7 @@ public final class Promise02PathTest {
         countsFromTheNextSample();
         echoesEachPlace();
         refuses();
+        refusesTheFarthest();
         checks.end();
     }
 
@@ -56,5 +57,17 @@ public final class Promise02PathTest {
         checks.throwsArgument("-1001", bench, () -> bench.path(7, -1001));
         checks.same("place 0 stays", bench.path(0, 0), 5);
         checks.same("place 7 stays", bench.path(7, 0), 6);
+    }
+
+    private static void refusesTheFarthest() {
+        EchoBench bench = new EchoBench();
+        bench.path(7, -1000);
+        for (int far : new int[] {Integer.MIN_VALUE, Integer.MAX_VALUE}) {
+            checks.throwsIndex("place", bench, () -> bench.path(far, 0));
+            checks.throwsArgument("hundredths", bench, () -> bench.path(7, far));
+            checks.throwsIndex("both", bench, () -> bench.path(far, far));
+        }
+        checks.same("the least stays", bench.path(7, 1000), -1000);
+        checks.same("the most", bench.path(7, 1000), 1000);
     }
 }

@@ -7,6 +7,7 @@ public final class Promise03FilterTest {
         takesTheEdges();
         refusesArguments();
         refusesASeventh();
+        refusesTheFarthest();
         checks.end();
     }
 
@@ -65,5 +66,21 @@ public final class Promise03FilterTest {
         checks.throwsState("a seventh", bench, () -> bench.filter(EchoBench.LMS, 1, 1));
         checks.throwsArgument("a wrong seventh", bench, () -> bench.filter(EchoBench.LMS, 9, 1));
         checks.throwsIndex("its weight", bench, () -> bench.weight(6, 0));
+    }
+
+    private static void refusesTheFarthest() {
+        EchoBench bench = new EchoBench();
+        for (int far : new int[] {Integer.MIN_VALUE, Integer.MAX_VALUE}) {
+            checks.throwsArgument("kind", bench, () -> bench.filter(far, 1, 500));
+            for (int kind = EchoBench.LMS; kind <= EchoBench.RLS; kind++) {
+                int one = kind;
+                checks.throwsArgument("taps", bench, () -> bench.filter(one, far, 500));
+                checks.throwsArgument("step", bench, () -> bench.filter(one, 1, far));
+            }
+        }
+        checks.same("none has a number", bench.filter(EchoBench.SIGN, 8, 2000), 0);
+        checks.throwsArgument("RLS of 8 taps", bench, () -> bench.filter(EchoBench.RLS, 8, 500));
+        checks.throwsArgument("RLS of a step of 2000", bench, () -> bench.filter(EchoBench.RLS, 4, 2000));
+        checks.same("the next number", bench.filter(EchoBench.RLS, 4, 1000), 1);
     }
 }

@@ -7,6 +7,7 @@ public final class Promise04StepTest {
         setsWhatIsNotForgotten();
         keepsTheRangeOfTheKind();
         refuses();
+        refusesTheFarthest();
         checks.end();
     }
 
@@ -58,5 +59,21 @@ public final class Promise04StepTest {
         checks.throwsIndex("both wrong", bench, () -> bench.step(1, 2001));
         checks.throwsIndex("filter 6", bench, () -> bench.step(6, 1));
         checks.same("it stays", bench.step(0, 2), 1);
+    }
+
+    private static void refusesTheFarthest() {
+        EchoBench bench = new EchoBench();
+        bench.filter(EchoBench.LMS, 1, 2000);
+        bench.filter(EchoBench.RLS, 1, 500);
+        for (int far : new int[] {Integer.MIN_VALUE, Integer.MAX_VALUE}) {
+            checks.throwsIndex("filter", bench, () -> bench.step(far, 500));
+            checks.throwsArgument("of an LMS", bench, () -> bench.step(0, far));
+            checks.throwsArgument("of an RLS", bench, () -> bench.step(1, far));
+        }
+        checks.throwsArgument("below 0", bench, () -> bench.step(0, -1));
+        checks.throwsArgument("the least of an LMS for an RLS", bench, () -> bench.step(1, 1));
+        checks.throwsArgument("the most of an LMS for an RLS", bench, () -> bench.step(1, 2000));
+        checks.same("it stays", bench.step(0, 1), 2000);
+        checks.same("so does the other", bench.step(1, 1000), 500);
     }
 }

@@ -9,6 +9,7 @@ public final class Promise05WatchTest {
         takesTheTailToldThen();
         learnsNothingWhileItHolds();
         refuses();
+        refusesTheFarthest();
         checks.end();
     }
 
@@ -146,5 +147,19 @@ public final class Promise05WatchTest {
         bench.feed(10, 11);
         checks.same("the watch stays", bench.count(0, 1), 1);
         checks.same("the tail stays", bench.count(0, 3), 7);
+    }
+
+    private static void refusesTheFarthest() {
+        EchoBench bench = watched(1, 1000, 20);
+        for (int far : new int[] {Integer.MIN_VALUE, Integer.MAX_VALUE}) {
+            checks.throwsIndex("filter", bench, () -> bench.watch(far, 0, 0));
+            checks.throwsArgument("watch", bench, () -> bench.watch(0, far, 0));
+            checks.throwsArgument("tail", bench, () -> bench.watch(0, 0, far));
+            checks.throwsArgument("both", bench, () -> bench.watch(0, far, far));
+        }
+        bench.feed(1, 10);
+        checks.same("the watch stays", bench.count(0, 1), 0);
+        bench.feed(1, 11);
+        checks.same("the tail stays", bench.count(0, 3), 20);
     }
 }

@@ -7,6 +7,7 @@ public final class Promise06BeginTest {
         leavesTheRest();
         makesASquareAsAtFirst();
         refuses();
+        beginsAtAnyTime();
         checks.end();
     }
 
@@ -90,5 +91,30 @@ public final class Promise06BeginTest {
         checks.throwsIndex("filter 1", bench, () -> bench.begin(1));
         checks.throwsIndex("filter -1", bench, () -> bench.begin(-1));
         checks.throwsIndex("the greatest filter", bench, () -> bench.begin(Integer.MAX_VALUE));
+    }
+
+    private static void beginsAtAnyTime() {
+        EchoBench bench = new EchoBench();
+        bench.filter(EchoBench.NORMAL, 2, 500);
+        String first = Look.at(bench);
+        bench.begin(0);
+        checks.sameText("ahead of any sample", Look.at(bench), first);
+        bench.watch(0, 100, 20);
+        bench.feed(4, 5);
+        checks.same("it goes on holding", bench.count(0, 3), 20);
+        bench.begin(0);
+        bench.begin(0);
+        bench.feed(3, 2);
+        checks.same("begun twice, it holds no more", bench.count(0, 1), 0);
+        checks.same("so it learns", bench.weight(0, 1), 0.5 * 2.0 * 4.0 / 26.0);
+        int v = 0;
+        for (int call = 0; call < 19; call++) {
+            v = bench.script(v, 100);
+        }
+        bench.script(v, 98);
+        bench.begin(0);
+        checks.same("behind all 2000 samples", bench.count(0, 0), 0);
+        checks.same("its power", bench.of(0, 3), 0.0);
+        checks.throwsState("there is still no more", bench, () -> bench.feed(0, 0));
     }
 }

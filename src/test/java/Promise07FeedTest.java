@@ -16,6 +16,7 @@ public final class Promise07FeedTest {
         learnsFromAHugeSquare();
         keepsEightX();
         refuses();
+        refusesTheFarthest();
         checks.end();
     }
 
@@ -259,5 +260,25 @@ public final class Promise07FeedTest {
         checks.throwsArgument("a wrong one more", bench, () -> bench.feed(0, 1001));
         bench.begin(0);
         checks.throwsState("one more behind begin", bench, () -> bench.feed(0, 0));
+    }
+
+    private static void refusesTheFarthest() {
+        EchoBench bench = new EchoBench();
+        bench.filter(EchoBench.SIGN, 2, 1000);
+        for (int call = 0; call < 20; call++) {
+            int samples = 99 * call;
+            checks.same("samples", bench.feed(1000, -1000), samples + 1);
+            for (int far : new int[] {Integer.MIN_VALUE, Integer.MAX_VALUE}) {
+                checks.throwsArgument("x", bench, () -> bench.feed(far, 0));
+                checks.throwsArgument("talk", bench, () -> bench.feed(0, far));
+            }
+            bench.script(call, 98);
+        }
+        for (int sample = 1981; sample <= 2000; sample++) {
+            checks.same("to the last", bench.feed(-1000, 1000), sample);
+        }
+        checks.throwsState("none beyond", bench, () -> bench.feed(-1000, 1000));
+        checks.throwsState("nor again", bench, () -> bench.feed(0, 0));
+        checks.same("all were heard", bench.count(0, 0), 2000);
     }
 }

@@ -7,6 +7,9 @@ public final class Promise08ScriptTest {
         feedsTheSameAsFeed();
         refusesArguments();
         refusesTooMany();
+        takesEveryV();
+        fillsUpToTheLast();
+        refusesTheFarthest();
         checks.end();
     }
 
@@ -16,7 +19,7 @@ public final class Promise08ScriptTest {
         checks.same("from 2000", bench.script(2000, 1), (7 * 2000 + 1001) % 2001);
         checks.same("two steps", bench.script(0, 2), (7 * 1001 + 1001) % 2001);
         bench.path(0, 100);
-        checks.same("to 0", bench.script(143, 1), (7 * 143 + 1001) % 2001);
+        checks.same("to 1", bench.script(143, 1), (7 * 143 + 1001) % 2001);
         checks.same("v less 1000 is x", bench.microphone(), (7 * 143 + 1001) % 2001 - 1000);
     }
 
@@ -67,5 +70,53 @@ public final class Promise08ScriptTest {
         checks.throwsState("one more", bench, () -> bench.script(0, 1));
         checks.throwsArgument("many 101 then", bench, () -> bench.script(0, 101));
         checks.throwsState("one more fed", bench, () -> bench.feed(0, 0));
+    }
+
+    /** Every v there is; behind two of them v is 0 and 2000, and x at the ends of its range. */
+    private static void takesEveryV() {
+        for (int v = 0; v <= 2000; v++) {
+            EchoBench bench = new EchoBench();
+            bench.path(0, 100);
+            int due = v * 7 + 1001;
+            while (due > 2000) {
+                due -= 2001;
+            }
+            checks.same("v behind " + v, bench.script(v, 1), due);
+            checks.same("x behind " + v, bench.microphone(), due - 1000.0);
+        }
+    }
+
+    private static void fillsUpToTheLast() {
+        for (int most : new int[] {1, 99, 100}) {
+            EchoBench bench = new EchoBench();
+            bench.filter(EchoBench.LMS, 1, 1);
+            for (int call = 0; call < 19; call++) {
+                bench.script(call, 100);
+            }
+            for (int sample = most; sample < 100; sample++) {
+                bench.feed(sample, 0);
+            }
+            if (most < 100) {
+                checks.throwsState("2001 samples then", bench, () -> bench.script(5, most + 1));
+            }
+            int v = 5;
+            for (int i = 0; i < most; i++) {
+                v = (7 * v + 1001) % 2001;
+            }
+            checks.same("2000 samples then", bench.script(5, most), v);
+            checks.same("all were heard", bench.count(0, 0), 2000);
+            checks.throwsState("one more", bench, () -> bench.script(5, 1));
+            checks.throwsState("a hundred more", bench, () -> bench.script(5, 100));
+        }
+    }
+
+    private static void refusesTheFarthest() {
+        EchoBench bench = filled();
+        for (int far : new int[] {Integer.MIN_VALUE, Integer.MAX_VALUE}) {
+            checks.throwsArgument("v", bench, () -> bench.script(far, 1));
+            checks.throwsArgument("many", bench, () -> bench.script(0, far));
+            checks.throwsArgument("both", bench, () -> bench.script(far, far));
+        }
+        checks.same("nothing was fed", bench.feed(0, 0), 1);
     }
 }

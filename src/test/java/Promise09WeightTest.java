@@ -27,6 +27,21 @@ public final class Promise09WeightTest {
         checks.throwsIndex("filter -1", bench, () -> bench.weight(-1, 0));
         checks.throwsIndex("filter 6", bench, () -> bench.weight(6, 0));
         checks.throwsIndex("both wrong", bench, () -> bench.weight(Integer.MIN_VALUE, Integer.MAX_VALUE));
+        tellsEachTapThereIs(checks);
         checks.end();
+    }
+
+    private static void tellsEachTapThereIs(Checks checks) {
+        for (int kind = EchoBench.LMS; kind <= EchoBench.RLS; kind++) {
+            for (int taps = 1; taps <= (kind == EchoBench.RLS ? 4 : 8); taps++) {
+                EchoBench bench = new EchoBench();
+                int beyond = taps;
+                bench.filter(kind, taps, 500);
+                bench.script(taps, 10);
+                bench.feed(1, 1000);
+                checks.holds("the last tap has learned", bench.weight(0, taps - 1) != 0.0);
+                checks.throwsIndex("the next one", bench, () -> bench.weight(0, beyond));
+            }
+        }
     }
 }

@@ -8,6 +8,7 @@ public final class Promise10OfTest {
         tellsHowFarOff();
         tellsThePowerOfSixteenErrors();
         refuses();
+        answersZeroSinceItBegan();
         checks.end();
     }
 
@@ -95,5 +96,27 @@ public final class Promise10OfTest {
         checks.throwsIndex("filter 1", bench, () -> bench.of(1, 0));
         checks.throwsIndex("filter -1", bench, () -> bench.of(-1, 0));
         checks.throwsIndex("both wrong", bench, () -> bench.of(1, 4));
+    }
+
+    private static void answersZeroSinceItBegan() {
+        for (int kind = EchoBench.LMS; kind <= EchoBench.RLS; kind++) {
+            EchoBench bench = new EchoBench();
+            bench.filter(kind, 1, 500);
+            bench.feed(3, 40);
+            bench.feed(2, 5);
+            checks.holds("an output", bench.of(0, 0) != 0.0);
+            checks.holds("an error", bench.of(0, 1) != 0.0);
+            bench.begin(0);
+            for (int what = 0; what < 4; what++) {
+                checks.same("of " + what, bench.of(0, what), 0.0);
+            }
+            bench.feed(2, 6);
+            checks.same("output since", bench.of(0, 0), 0.0);
+            checks.same("error since", bench.of(0, 1), 6.0);
+            checks.throwsArgument("the least what", bench, () -> bench.of(0, Integer.MIN_VALUE));
+            checks.throwsArgument("the greatest what", bench, () -> bench.of(0, Integer.MAX_VALUE));
+            checks.throwsIndex("the least filter", bench, () -> bench.of(Integer.MIN_VALUE, 0));
+            checks.throwsIndex("the greatest filter", bench, () -> bench.of(Integer.MAX_VALUE, 0));
+        }
     }
 }

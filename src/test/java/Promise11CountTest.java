@@ -41,6 +41,34 @@ public final class Promise11CountTest {
         checks.throwsIndex("filter 2", bench, () -> bench.count(2, 0));
         checks.throwsIndex("filter -1", bench, () -> bench.count(-1, 0));
         checks.throwsIndex("both wrong", bench, () -> bench.count(2, 4));
+        countsFromTheNextSampleOn(checks);
         checks.end();
+    }
+
+    private static void countsFromTheNextSampleOn(Checks checks) {
+        EchoBench bench = new EchoBench();
+        for (int call = 0; call < 20; call++) {
+            bench.script(call, 99);
+        }
+        bench.filter(EchoBench.RLS, 1, 500);
+        bench.watch(0, 1, 1);
+        checks.same("no sample yet", bench.count(0, 0), 0);
+        bench.feed(0, 1);
+        checks.same("held at the first", bench.count(0, 1), 1);
+        checks.same("goes on for one", bench.count(0, 3), 1);
+        bench.feed(0, 0);
+        checks.same("held at both", bench.count(0, 1), 2);
+        checks.same("goes on for none", bench.count(0, 3), 0);
+        for (int sample = 3; sample <= 20; sample++) {
+            bench.feed(0, 0);
+            checks.same("samples", bench.count(0, 0), sample);
+            checks.same("held", bench.count(0, 1), 2);
+            checks.same("resets, held samples aside", bench.count(0, 2), sample < 16 ? 0 : 1);
+            checks.same("goes on for none", bench.count(0, 3), 0);
+        }
+        checks.throwsArgument("the least what", bench, () -> bench.count(0, Integer.MIN_VALUE));
+        checks.throwsArgument("the greatest what", bench, () -> bench.count(0, Integer.MAX_VALUE));
+        checks.throwsIndex("the least filter", bench, () -> bench.count(Integer.MIN_VALUE, 0));
+        checks.throwsIndex("the greatest filter", bench, () -> bench.count(Integer.MAX_VALUE, 0));
     }
 }

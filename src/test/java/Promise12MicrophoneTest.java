@@ -34,6 +34,31 @@ public final class Promise12MicrophoneTest {
             due = due + (13 * place - 41) / 100.0 * (100 * (7 - place) - 333);
         }
         checks.same("all places, to the last digit", all.microphone(), due);
+        staysAtTheLastSample(checks);
         checks.end();
+    }
+
+    private static void staysAtTheLastSample(Checks checks) {
+        EchoBench bench = new EchoBench();
+        bench.filter(EchoBench.LMS, 1, 1);
+        bench.path(0, 100);
+        checks.throwsArgument("a refused first sample", bench, () -> bench.feed(1001, 1));
+        checks.same("there is none yet", bench.microphone(), 0.0);
+        bench.feed(-1000, 1000);
+        checks.same("talk and echo cancel", bench.microphone(), -1000.0 + 1000.0);
+        bench.feed(3, 4);
+        bench.path(0, -100);
+        bench.begin(0);
+        checks.throwsArgument("a refused sample", bench, () -> bench.feed(5, -1001));
+        checks.throwsArgument("a refused script", bench, () -> bench.script(5, 101));
+        checks.same("the last sample", bench.microphone(), 7.0);
+        int v = bench.script(1, 2);
+        checks.same("the last one of a script", bench.microphone(), 1000.0 - v);
+        for (int call = 0; call < 19; call++) {
+            v = bench.script(v, 100);
+        }
+        v = bench.script(v, 96);
+        checks.throwsState("a sample too many", bench, () -> bench.feed(5, 5));
+        checks.same("the last of all", bench.microphone(), 1000.0 - v);
     }
 }

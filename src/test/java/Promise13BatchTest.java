@@ -83,6 +83,7 @@ public final class Promise13BatchTest {
         bench.feed(3, 4);
         checks.throwsIndex("tap 2", bench, () -> bench.batch(2));
         checks.throwsIndex("tap -1", bench, () -> bench.batch(-1));
+        checks.throwsIndex("the least tap", bench, () -> bench.batch(Integer.MIN_VALUE));
         checks.throwsIndex("the greatest tap", bench, () -> bench.batch(Integer.MAX_VALUE));
     }
 }

@@ -8,6 +8,7 @@ public final class Promise14SquareTest {
         neverAnswersNaN();
         neverAnswersNaNBehindAHold();
         refuses();
+        tellsEachPlaceThereIs();
         checks.end();
     }
 
@@ -98,5 +99,30 @@ public final class Promise14SquareTest {
         checks.throwsState("a SIGN", bench, () -> bench.square(3, 0, 0));
         checks.throwsIndex("a row that an LMS has not", bench, () -> bench.square(1, 2, 0));
         checks.throwsIndex("a column that a SIGN has not", bench, () -> bench.square(3, 0, 1));
+    }
+
+    private static void tellsEachPlaceThereIs() {
+        for (int taps = 1; taps <= 4; taps++) {
+            EchoBench bench = new EchoBench();
+            bench.filter(EchoBench.RLS, taps, 900);
+            bench.script(taps, 8);
+            for (int row = 0; row < taps; row++) {
+                for (int column = 0; column < taps; column++) {
+                    double told = bench.square(0, row, column);
+                    checks.holds("it is no longer as at first", told != 0.0 && told != 100.0);
+                }
+            }
+            for (int wrong : new int[] {Integer.MIN_VALUE, -1, taps, 4, Integer.MAX_VALUE}) {
+                checks.throwsIndex("row", bench, () -> bench.square(0, wrong, 0));
+                checks.throwsIndex("column", bench, () -> bench.square(0, 0, wrong));
+                checks.throwsIndex("both", bench, () -> bench.square(0, wrong, wrong));
+            }
+            bench.begin(0);
+            for (int row = 0; row < taps; row++) {
+                for (int column = 0; column < taps; column++) {
+                    checks.same("begun anew", bench.square(0, row, column), row == column ? 100.0 : 0.0);
+                }
+            }
+        }
     }
 }

@@ -27,6 +27,30 @@ public final class Promise15BestTest {
         bench.path(3, 0);
         bench.begin(0);
         checks.same("the first", bench.best(), 0);
+        takesTheLowestOfSix(checks);
         checks.end();
+    }
+
+    private static void takesTheLowestOfSix(Checks checks) {
+        EchoBench bench = new EchoBench();
+        bench.feed(5, 5);
+        checks.same("samples alone make no filter", bench.best(), EchoBench.NONE);
+        bench.path(0, 600);
+        for (int filter = 0; filter < 6; filter++) {
+            bench.filter(EchoBench.SIGN, 1, 1000);
+            checks.same("all are as far off", bench.best(), 0);
+        }
+        for (int filter = 0; filter < 5; filter++) {
+            bench.watch(filter, 1, 0);
+        }
+        bench.feed(1, 0);
+        checks.same("the last one alone has learned", bench.best(), 5);
+        bench.watch(3, 0, 0);
+        bench.watch(5, 1, 0);
+        bench.feed(1, 0);
+        checks.same("another is as good, and lower", bench.best(), 3);
+        checks.throwsState("a refused filter", bench, () -> bench.filter(EchoBench.LMS, 1, 1));
+        bench.path(0, 0);
+        checks.same("not off at all, the lowest", bench.best(), 0);
     }
 }
