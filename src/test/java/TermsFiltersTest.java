@@ -18,6 +18,7 @@ public final class TermsFiltersTest {
         learnsAnewBehindAReset();
         neverHoldsUntold();
         holdsJustAboveTheWatch();
+        holdsForTheLeastEchoOnSilence();
         holdsEitherWay();
         looksFromXZeroToTheLastTap();
         goesOnHoldingAsLongAsItsTail();
@@ -369,5 +370,22 @@ public final class TermsFiltersTest {
         bench.watch(0, 100, 9);
         bench.feed(1, 1000);
         checks.same("or longer", bench.count(0, 3), 9);
+    }
+
+    /** Without an x at its taps any microphone is above any watch: here an echo of 0.01 by an x beyond them. */
+    private static void holdsForTheLeastEchoOnSilence() {
+        for (int hundredths : new int[] {1, -1}) {
+            EchoBench bench = one(EchoBench.LMS, 1, 1);
+            bench.path(1, hundredths);
+            bench.feed(1, 0);
+            bench.watch(0, 1000, 0);
+            bench.feed(0, 0);
+            checks.same("the least microphone", bench.microphone(), hundredths / 100.0);
+            checks.same("above the most watch", bench.count(0, 1), 1);
+            bench.feed(0, hundredths);
+            checks.same("so is the least talk", bench.count(0, 1), 2);
+            bench.feed(0, 0);
+            checks.same("silence is not", bench.count(0, 1), 2);
+        }
     }
 }
