@@ -9,6 +9,7 @@ public final class Promise14SquareTest {
         neverAnswersNaNBehindAHold();
         refuses();
         tellsEachPlaceThereIs();
+        asksForThePlaceAheadOfTheKind();
         checks.end();
     }
 
@@ -123,6 +124,35 @@ public final class Promise14SquareTest {
                     checks.same("begun anew", bench.square(0, row, column), row == column ? 100.0 : 0.0);
                 }
             }
+        }
+    }
+
+    /** The clause names the row and the column ahead of the kind. */
+    private static void asksForThePlaceAheadOfTheKind() {
+        int[] others = {EchoBench.LMS, EchoBench.NORMAL, EchoBench.SIGN};
+        for (int taps = 1; taps <= 8; taps++) {
+            EchoBench bench = new EchoBench();
+            for (int kind : others) {
+                bench.filter(kind, taps, 100);
+            }
+            for (int place = 0; place < 100; place++) {
+                int row = place / 10 - 1;
+                int column = place % 10 - 1;
+                boolean isThere = row >= 0 && row < taps && column >= 0 && column < taps;
+                for (int filter = 0; filter < others.length; filter++) {
+                    asksOne(bench, filter, row, column, isThere);
+                }
+                checks.throwsIndex("filter 3", bench, () -> bench.square(3, row, column));
+            }
+        }
+    }
+
+    private static void asksOne(EchoBench bench, int filter, int row, int column, boolean isThere) {
+        String what = "filter " + filter + ", row " + row + ", column " + column;
+        if (isThere) {
+            checks.throwsState(what, bench, () -> bench.square(filter, row, column));
+        } else {
+            checks.throwsIndex(what, bench, () -> bench.square(filter, row, column));
         }
     }
 }
