@@ -248,24 +248,6 @@ public final class EchoBench {
         return number < 0.0 ? -number : number;
     }
 
-    /** Opposites make 0.0, as with +, but also where they are infinite and + would answer NaN. */
-    private static double together(double left, double right) {
-        return left == -right ? 0.0 : left + right;
-    }
-
-    /** 0.0 times any number is 0.0, as with *, but also times infinity, where * would answer NaN. */
-    private static double times(double left, double right) {
-        return left == 0.0 || right == 0.0 ? 0.0 : left * right;
-    }
-
-    /** Equal sizes make 1.0 or -1.0, as with /, but also where they are infinite and / would answer NaN. */
-    private static double dividedBy(double number, double divisor) {
-        if (divisor == 0.0) {
-            return 0.0;
-        }
-        return number == divisor ? 1.0 : number == -divisor ? -1.0 : number / divisor;
-    }
-
     private Filter numbered(int number) {
         return number < 0 || number >= filterCount || number >= filters.length ? null : filters[number];
     }
@@ -484,7 +466,7 @@ public final class EchoBench {
             boolean sound = own.prepare(xs, step);
             if (sound) {
                 for (int k = 0; k < weights.length; k++) {
-                    add(k, times(own.share(k), error));
+                    add(k, own.share(k) * error);
                 }
                 sound = own.renew(step);
             }
@@ -513,9 +495,9 @@ public final class EchoBench {
 
     /**
      * The square P of an RLS filter, with the rows g and k of the sample at hand.
-     * Nothing bounds its numbers beside the diagonal, so all of it is reckoned by
-     * together, times and dividedBy, which differ from + * / only where those answer NaN
-     * (and in the sign of a 0.0, which no number of P, and no weight, takes over).
+     * Nothing bounds its numbers beside the diagonal, so they may become infinite, and m, k, P
+     * and the weights NaN. Nothing keeps that out, as the document's sums, products and quotients
+     * are those of doubles; nor is it a reset, as NaN is not below a bound and not above one.
      */
     private static final class Square {
         private static final int FIRST = 100;
@@ -557,13 +539,13 @@ public final class EchoBench {
             double m = step;
             for (int i = 0; i < size && i < xs.length; i++) {
                 g[i] = rowTimes(i, xs);
-                m = together(m, times(xs[i], g[i]));
+                m = m + xs[i] * g[i];
             }
             if (m < 0.000001) {
                 return false;
             }
             for (int i = 0; i < size; i++) {
-                shares[i] = dividedBy(g[i], m);
+                shares[i] = g[i] / m;
             }
             return true;
         }
@@ -572,7 +554,7 @@ public final class EchoBench {
             double sum = 0.0;
             if (row >= 0 && row < size) {
                 for (int j = 0; j < size && j < xs.length; j++) {
-                    sum = together(sum, times(numbers[row][j], xs[j]));
+                    sum = sum + numbers[row][j] * xs[j];
                 }
             }
             return sum;
@@ -583,14 +565,14 @@ public final class EchoBench {
             if (step <= 0.0) {
                 return false;
             }
-            boolean sound = true;
+            boolean left = false;
             for (int i = 0; i < size; i++) {
                 for (int j = 0; j < size; j++) {
-                    numbers[i][j] = together(numbers[i][j], -times(shares[i], g[j])) / step;
+                    numbers[i][j] = (numbers[i][j] - shares[i] * g[j]) / step;
                 }
-                sound = sound && numbers[i][i] <= MOST_DIAGONAL && numbers[i][i] >= 0.0;
+                left = left || numbers[i][i] > MOST_DIAGONAL || numbers[i][i] < 0.0;
             }
-            return sound;
+            return !left;
         }
     }
 }

@@ -1,4 +1,4 @@
-/** Counts and prints the answers that are not as due. */
+/** Counts and prints the answers that are not as due; NaN is as due where NaN is. */
 final class Checks {
     private final String title;
     private int checked = 0;
@@ -10,7 +10,7 @@ final class Checks {
 
     void same(String what, double got, double due) {
         checked++;
-        if (got != due) {
+        if (got != due && !(Double.isNaN(got) && Double.isNaN(due))) {
             wrong++;
             System.out.println(title + ": " + what + " answered " + got + ", due is " + due);
         }

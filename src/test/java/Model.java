@@ -41,6 +41,7 @@ final class Model {
     final List<Sample> samples = new ArrayList<>();
     final List<Learner> learners = new ArrayList<>();
     double greatestP = 0.0;
+    boolean metNaN = false;
 
     private static double[][] firstSquare(int n) {
         double[][] p = new double[n][n];
@@ -190,7 +191,8 @@ final class Model {
             one.w[i] = Math.max(-1.0e9, Math.min(1.0e9, one.w[i] + g[i] / m * error));
             for (int j = 0; j < n; j++) {
                 next[i][j] = (one.p[i][j] - g[i] / m * g[j]) / step;
-                greatestP = Math.max(greatestP, Math.abs(next[i][j]));
+                metNaN |= Double.isNaN(next[i][j]);
+                greatestP = Math.abs(next[i][j]) > greatestP ? Math.abs(next[i][j]) : greatestP;
             }
             above |= next[i][i] > 1000000.0;
             below |= next[i][i] < 0.0;
@@ -263,8 +265,8 @@ final class Model {
 
     int best() {
         int best = -1;
-        for (int i = learners.size() - 1; i >= 0; i--) {
-            best = best < 0 || of(i, 2) <= of(best, 2) ? i : best;
+        for (int i = 0; i < learners.size(); i++) {
+            best = best < 0 || of(i, 2) < of(best, 2) ? i : best;
         }
         return best;
     }

@@ -5,6 +5,7 @@ public final class ModelTest {
     private static final int RUNS = 1500;
     private static final int CALLS = 512;
     private static final int HUGE_RUNS = 600;
+    private static final int ENDING_RUNS = 600;
 
     private long seed;
     private final Checks checks = new Checks("ModelTest");
@@ -12,6 +13,8 @@ public final class ModelTest {
     private int below = 0;
     private int small = 0;
     private double greatestP = 0.0;
+    private int infinite = 0;
+    private int nan = 0;
 
     public static void main(String[] args) {
         ModelTest test = new ModelTest();
@@ -21,13 +24,18 @@ public final class ModelTest {
         for (int run = 0; run < HUGE_RUNS; run++) {
             test.hugeRun(run);
         }
+        test.checks.holds("some square grew: " + test.greatestP, test.greatestP > 1.0e120);
+        test.checks.same("none grew so far yet that doubles end", test.infinite + test.nan, 0);
+        for (int run = 0; run < ENDING_RUNS; run++) {
+            test.endingRun(run);
+        }
+        test.checks.holds("some square was infinite", test.infinite > 0);
+        test.checks.holds("some square was NaN", test.nan > 0 && test.nan < ENDING_RUNS);
         test.checks.holds("some square was reset above its bound", test.above > 0);
         test.checks.holds("some square was reset below 0.0", test.below > 0);
         test.checks.holds("some square was reset for a small m", test.small > 0);
-        test.checks.holds("some square grew: " + test.greatestP, test.greatestP > 1.0e120);
-        test.checks.holds("none grew so far that doubles end: " + test.greatestP, test.greatestP < 1.0e300);
         System.out.println("resets: " + test.above + " above, " + test.below + " below, " + test.small
-                + " for a small m; the greatest number of a square: " + test.greatestP);
+                + " for a small m; runs with a square that was infinite: " + test.infinite + ", or NaN: " + test.nan);
         test.checks.end();
     }
 
@@ -91,6 +99,60 @@ public final class ModelTest {
         count(model);
     }
 
+    /** A square that doubles until doubles end, and, near that end, other samples and calls. */
+    private void endingRun(int run) {
+        seed = run * 15485863L + 3;
+        EchoBench bench = new EchoBench();
+        Model model = new Model();
+        String where = "ending run " + run;
+        DoublingSquare.makeFilter(bench);
+        model.filter(EchoBench.RLS, 4, DoublingSquare.STEP);
+        model.watch(0, 1, 0);
+        DoublingSquare.reach((x, talk) -> fed(where, bench, model, x, talk));
+        int scripts = next(DoublingSquare.LAST_SCRIPTS - 9, DoublingSquare.LAST_SCRIPTS + 1);
+        for (int script = 0; script < scripts; script++) {
+            same(where, () -> bench.script(DoublingSquare.V, 3), () -> model.script(DoublingSquare.V, 3));
+        }
+        whole(where, bench, model);
+        int held = next(0, 6);
+        for (int sample = 0; sample < held; sample++) {
+            fed(where, bench, model, next(0, 1) * next(-1000, 1000), 1000);
+        }
+        if (next(0, 2) > 0) {
+            same(where, () -> nothing(() -> bench.watch(0, 0, 0)), () -> nothing(() -> model.watch(0, 0, 0)));
+        }
+        int zeros = next(0, 12);
+        for (int sample = 0; sample < zeros; sample++) {
+            fed(where, bench, model, 0, 0);
+        }
+        fed(where, bench, model, next(-9, 9), next(-3, 3));
+        whole(where, bench, model);
+        int loud = new int[] {1000, 10, 1, 0}[run % 4];
+        for (int call = DoublingSquare.CALLS + scripts + held + zeros + 2; call < CALLS; call++) {
+            one(where + " call " + call, bench, model, loud);
+        }
+        whole(where, bench, model);
+        count(model);
+    }
+
+    private int fed(String where, EchoBench bench, Model model, int x, int talk) {
+        same(where + " feed", () -> bench.feed(x, talk), () -> model.feed(x, talk));
+        return 0;
+    }
+
+    /** Questions beyond the 512 calls of a run, as they change nothing. */
+    private void whole(String where, EchoBench bench, Model model) {
+        for (int place = 0; place < 16; place++) {
+            int row = place / 4;
+            int column = place % 4;
+            same(where + " P", () -> bench.square(0, row, column), () -> model.square(0, row, column));
+            same(where + " weight", () -> bench.weight(0, row), () -> model.weight(0, row));
+            same(where + " of", () -> bench.of(0, row), () -> model.of(0, row));
+            same(where + " count", () -> bench.count(0, row), () -> model.count(0, row));
+        }
+        same(where + " best", bench::best, model::best);
+    }
+
     private void count(Model model) {
         for (Model.Learner learner : model.learners) {
             above += learner.resetsAbove;
@@ -98,6 +160,8 @@ public final class ModelTest {
             small += learner.resetsSmall;
         }
         greatestP = Math.max(greatestP, model.greatestP);
+        infinite += model.greatestP == Double.POSITIVE_INFINITY ? 1 : 0;
+        nan += model.metNaN ? 1 : 0;
     }
 
     private void one(String where, EchoBench bench, Model model, int loud) {

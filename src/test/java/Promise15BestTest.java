@@ -28,7 +28,33 @@ public final class Promise15BestTest {
         bench.begin(0);
         checks.same("the first", bench.best(), 0);
         takesTheLowestOfSix(checks);
+        takesNoOtherForOneThatIsNotLessOff(checks);
         checks.end();
+    }
+
+    /** How far off is NaN then: it is not less than another, and no other is less than it. */
+    private static void takesNoOtherForOneThatIsNotLessOff(Checks checks) {
+        EchoBench bench = new EchoBench();
+        bench.filter(EchoBench.SIGN, 1, 1000);
+        int lost = DoublingSquare.makeFilter(bench);
+        DoublingSquare.reach(bench::feed);
+        DoublingSquare.grow(bench, DoublingSquare.LAST_SCRIPTS + 1);
+        bench.begin(0);
+        bench.path(0, 1000);
+        checks.same("the other is NaN off", bench.of(lost, 2), Double.NaN);
+        checks.same("however far the first is off", bench.best(), 0);
+        bench.filter(EchoBench.SIGN, 1, 1000);
+        checks.same("a later one is as good as the first", bench.best(), 0);
+        bench.watch(0, 1, 0);
+        bench.feed(1, 1000);
+        checks.same("a later one is less off than the first", bench.best(), 2);
+
+        EchoBench alone = DoublingSquare.bench(DoublingSquare.LAST_SCRIPTS + 1);
+        checks.same("the only one", alone.best(), 0);
+        alone.filter(EchoBench.LMS, 1, 1);
+        checks.same("another that is not less than NaN", alone.best(), 0);
+        alone.path(0, 1000);
+        checks.same("nor then", alone.best(), 0);
     }
 
     private static void takesTheLowestOfSix(Checks checks) {
